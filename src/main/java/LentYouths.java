@@ -150,7 +150,7 @@ public final class LentYouths {
             case 1:
                 return exchange.holds[p];
             case 2:
-                return exchange.knownTo(p);
+                return exchange.knows[p];
             default:
                 return exchange.left[p];
         }
@@ -633,7 +633,7 @@ public final class LentYouths {
 
         boolean areSoIn(Exchange exchange) {
             for (int k = 0; k < count; k++) {
-                boolean knows = (exchange.knownTo(who[k]) >> scene[k] & 1) == 1;
+                boolean knows = (exchange.knows[who[k]] >> scene[k] & 1) == 1;
                 if (knows != knew[k]) {
                     return false;
                 }
@@ -648,6 +648,7 @@ public final class LentYouths {
         final int[] lasts = new int[MOST_PEOPLE];
         final int[] lent = new int[MOST_PEOPLE];
         final int[] holds = new int[MOST_PEOPLE];
+        final int[] knows = new int[MOST_PEOPLE];
         /** What each person came to know by each childhood, as a set: person by person. */
         final int[] shown = new int[MOST_PEOPLE * MOST_PEOPLE];
         Person[] persons = new Person[0];
@@ -671,6 +672,7 @@ public final class LentYouths {
         void place(int p, int scenes, int howLong) {
             left[p] = scenes;
             lasts[p] = howLong;
+            knows[p] = scenes;
             shown[MOST_PEOPLE * p + p] = scenes;
         }
 
@@ -681,6 +683,7 @@ public final class LentYouths {
             System.arraycopy(other.lasts, 0, lasts, 0, MOST_PEOPLE);
             System.arraycopy(other.lent, 0, lent, 0, MOST_PEOPLE);
             System.arraycopy(other.holds, 0, holds, 0, MOST_PEOPLE);
+            System.arraycopy(other.knows, 0, knows, 0, MOST_PEOPLE);
             System.arraycopy(other.shown, 0, shown, 0, shown.length);
         }
 
@@ -732,15 +735,8 @@ public final class LentYouths {
         }
 
         private void show(int p) {
+            knows[p] |= left[holds[p]];
             shown[MOST_PEOPLE * p + holds[p]] |= left[holds[p]];
-        }
-
-        int knownTo(int p) {
-            int known = 0;
-            for (int c = 0; c < people; c++) {
-                known |= shown[MOST_PEOPLE * p + c];
-            }
-            return known;
         }
 
         /** By how many childhoods a person came to know a scene of a set. */
@@ -757,7 +753,7 @@ public final class LentYouths {
         int mended() {
             int set = 0;
             for (int p = 0; p < people; p++) {
-                if (persons[p].isMendedBy(knownTo(p))) {
+                if (persons[p].isMendedBy(knows[p])) {
                     set |= 1 << p;
                 }
             }

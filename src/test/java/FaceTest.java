@@ -65,7 +65,8 @@ public final class FaceTest {
     }
 
     private static String told(Method m) {
-        StringBuilder s = new StringBuilder(m.getReturnType().getName()).append(' ').append(m.getName()).append('(');
+        StringBuilder s = new StringBuilder(m.getReturnType().getName());
+        s.append(' ').append(m.getName()).append('(');
         for (Class<?> c : m.getParameterTypes()) {
             s.append(s.charAt(s.length() - 1) == '(' ? "" : ",").append(c.getName());
         }

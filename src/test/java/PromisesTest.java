@@ -406,6 +406,9 @@ public final class PromisesTest {
         due.is("9: two of all", x.help(4), 2);
         due.is("9: unknown", x.help(5), UNKNOWN);
         due.is("9: unknown below", x.help(-1), UNKNOWN);
+        Due.counter(x, "k;c0151;c3261");
+        due.is("9: person 0 is helped by 1", x.help(1), 1);
+        due.is("9: who was there ahead of this counter is not", x.help(0), 0);
     }
 
     private static void reading() {
@@ -584,6 +587,10 @@ public final class PromisesTest {
         // What was known of it ahead of that stays known.
         x.want(1, 0);
         share(x, 1, 2, 1, 2);
+        // So it does if they have the childhood again, with less in it.
+        Due.counter(x, "k;c0361;c1209");
+        Due.row(x, 0, 0, 1, 0, 1, 0, 1);
+        share(x, 1, 3, 1, 2);
     }
 
     private static void share(LentYouths x, int p, int n, int upper, int lower) {
@@ -617,7 +624,9 @@ public final class PromisesTest {
         due.is("16: fault 0", x.fault(), 0);
         due.is("16: the last is 0", x.cell(0, 59, 2), 0);
         x.put(0, 59, 7);
+        x.put(0, 0, 7);
         x.sheet(0, 1, 60);
+        due.is("16: a new row is of nought", x.cell(0, 0, 1), 0);
         due.is("16: a new row is of its lane", x.cell(0, 59, 1), 0);
         due.is("16: none", x.sheet(0, 0, 0), 1);
         due.is("16: a row of none is something", x.cell(0, 0, 0), LOST);
