@@ -1,12 +1,25 @@
 /** What the tests share: answers that are due, and rows written to sheets. */
 final class Due {
     private int wrong = 0;
+    private int looks = 0;
+    private String heading = "";
 
     void is(String call, long got, long want) {
+        looks++;
         if (got != want) {
             wrong++;
-            System.out.println(call + " answered " + got + ", due is " + want);
+            System.out.println(heading + call + " answered " + got + ", due is " + want);
         }
+    }
+
+    /** What is told ahead of each wrong answer from now on. */
+    void under(String newHeading) {
+        heading = newHeading;
+    }
+
+    /** How many answers have been looked at. */
+    int looks() {
+        return looks;
     }
 
     void isTrue(String what, boolean so) {
