@@ -211,7 +211,7 @@ final class BoundsOfCounter {
     static void allAnew(Due due) {
         LentYouths x = Filled.make();
         x.live(0, 63);
-        x.want(1, 6);
+        x.want(1, 5);
         int trace = x.trace();
         Filled.changesNothing(due, "a text that just ends", y -> y.counter(0, 0, 0, 12), -112, 0);
         Filled.changesNothing(due, "a text with a fault", y -> y.counter(2, 2, 0, 8), -100, 0);
@@ -220,7 +220,10 @@ final class BoundsOfCounter {
         due.is("readings", x.many(1), 0);
         due.is("the next reading", x.reading(0, 0, true), 0);
         due.is("scenes of 0", x.ofPerson(0, 1), 0);
+        due.is("kind of 1's", x.ofPerson(1, 0), 1);
+        due.is("scenes of 1", x.ofPerson(1, 1), 63);
         due.is("wanted by 1", x.ofPerson(1, 2), 6);
+        due.is("wear of 1's", x.ofPerson(1, 3), 9);
         due.is("person 2", x.ofPerson(2, 0), UNKNOWN);
         due.is("trace", x.trace(), trace);
         due.is("a byte", x.cell(0, 12, 0), '9');
